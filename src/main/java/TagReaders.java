@@ -888,12 +888,16 @@ public final class TagReaders {
         }
 
         void fadeByTime(Tag tag) {
-            for (int flag = 1; flag < FLAGS; flag++) {
-                int at = fadesAt(tag, flag);
-                if (tag.flag(flag) == 1 && at != NONE && at <= tick) {
+            for (int flag = 1; flag < FLAGS && tag.flags != 0; flag++) {
+                if (tag.flag(flag) == 1 && hasRunOut(tag, flag)) {
                     fade(tag, flag);
                 }
             }
+        }
+
+        private boolean hasRunOut(Tag tag, int flag) {
+            int at = fadesAt(tag, flag);
+            return at != NONE && at <= tick;
         }
 
         void pass() {
@@ -1424,22 +1428,31 @@ public final class TagReaders {
             if (there == 0 || what < 0 || what > 2) {
                 return NONE;
             }
-            int span = sharpSpan(tags, there);
+            int span = sharpSpan(tags);
             if (span == NONE) {
                 return NONE;
             }
             return what == 2 ? there : told(span, what);
         }
 
-        private static int sharpSpan(Tag[] tags, int there) {
+        private static int sharpSpan(Tag[] tags) {
             for (int n = 0; n <= MEMORY_BITS; n++) {
                 for (int p = 0; isSpan(p, n); p++) {
-                    if (valuesIn(tags, p, n) == there) {
+                    if (areUnlike(tags, p, n)) {
                         return n << P_BITS | p;
                     }
                 }
             }
             return NONE;
+        }
+
+        private static boolean areUnlike(Tag[] tags, int p, int n) {
+            for (int i = 0; i < TAGS; i++) {
+                if (tags[i].there && isBefore(tags, i, p, n)) {
+                    return false;
+                }
+            }
+            return true;
         }
 
         static int leastTold(Tag[] tags, int what) {
