@@ -4,7 +4,6 @@ public final class TagReaders {
 
     private static final int TAGS = 24;
     private static final int READERS = 4;
-    private static final int ALL_TAGS = (1 << TAGS) - 1;
     private static final int LAST_TICK = 9999;
     private static final int MOST_TICKS_A_CALL = 40;
     private static final int MOST_TICKS_IN_THOUGHT = 500;
@@ -315,9 +314,9 @@ public final class TagReaders {
         int busy = NONE;
         int slot = NONE;
         int timesRead;
-        int lastReader = NONE;
+        int lastReader;
         int bSince;
-        int darkSince = NONE;
+        int darkSince;
 
         void arrive(int newMemory, int newReach) {
             there = true;
@@ -327,7 +326,6 @@ public final class TagReaders {
             timesRead = 0;
             lastReader = NONE;
             darkSince = NONE;
-            release();
         }
 
         void leave() {
@@ -611,7 +609,6 @@ public final class TagReaders {
             frames = 0;
             missed = 0;
             all.clear();
-            frame.clear();
             asked.clear();
         }
 

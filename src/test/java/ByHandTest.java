@@ -179,6 +179,14 @@ public final class ByHandTest {
         for (int what = 0; what < anew.length; what++) {
             DUE.is("comes anew, " + what, x.tagOf(5, what), anew[what]);
         }
+        x.tick(1);
+        DUE.is("who went ANSWERS no more", x.log(1, 2), 1);
+        x.tag(7, memory(8, 0), 0);
+        x.tick(3);
+        DUE.is("without POWER for", x.tagOf(7, 12), 3);
+        x.gone(7);
+        x.tag(7, memory(8, 0), 0);
+        DUE.is("anew", x.tagOf(7, 12), 0);
     }
 
     private static void move() {
@@ -331,6 +339,14 @@ public final class ByHandTest {
         x.tick(1);
         DUE.is("A", x.tagOf(0, 1), 0);
         DUE.is("A: NONE", x.tagOf(0, 11), NONE);
+        x.select(0, 1, 5, 0, 0, 0);
+        x.tick(3);
+        x.select(0, 2, 5, 0, 0, 0);
+        x.select(0, 4, 1, 0, 0, 0);
+        DUE.is("another FLAG changes nothing of it", x.tagOf(0, 11), 3);
+        x.select(0, 1, 3, 0, 0, 0);
+        x.select(0, 1, 3, 0, 0, 0);
+        DUE.is("turned twice: from then on", x.tagOf(0, 11), 0);
     }
 
     private static void put() {
@@ -556,68 +572,105 @@ public final class ByHandTest {
         DUE.part("promise 40");
         TagReaders x = withReaders(1);
         DUE.is("none yet", x.image(false), false);
-        x.tag(0, memory(0x0001, 0), 1);
-        x.tag(1, memory(0x0002, 0), 1);
-        x.tag(2, memory(0x8002, 0), 1);
+        for (int i = 0; i < 6; i++) {
+            x.tag(i, memory(i << 13, i), i == 5 ? 2 : 1);
+        }
         x.state(99);
         x.tune(0, 2, 3);
-        x.begin(0, 2, 0, 0, 1);
-        x.tick(2);
+        x.select(0, 1, 5, 0, 0, 0);
+        x.select(0, 4, 1, 0, 1, 0);
+        x.begin(0, 3, 0, 1, 1);
+        x.tick(40);
+        x.begin(0, 2, 0, 1, 1);
+        x.power(1, true);
+        x.begin(1, 0, 0, 0, 2);
+        x.tick(4);
+        x.stop(1);
+        x.begin(1, 3, 0, 0, 2);
+        x.tick(1);
         DUE.is("taken", x.image(true), true);
         int[] before = told(x);
         for (int round = 0; round < 2; round++) {
-            x.tick(40);
-            x.set(0, 5 + round);
-            x.set(1, 6);
-            x.gone(2);
-            x.begin(0, 2, 0, 0, 0);
-            x.tick(7);
-            x.tune(0, 2, 1);
-            x.tune(0, 1, 1);
-            x.power(0, false);
-            x.power(2, true);
+            changeAll(x, round);
             DUE.is("back, " + round, x.image(false), true);
             int[] after = told(x);
             for (int i = 0; i < before.length; i++) {
                 DUE.is("told " + i, after[i], before[i]);
             }
         }
-        x.tick(40);
-        DUE.is("all goes on", x.reader(0, 12), 3);
+        int lasts = x.lasts(0);
+        x.tick(lasts);
+        DUE.is("all goes on", x.reader(0, 12), 4);
         int learnt = x.reader(0, 18);
+        int second = x.learnt(0, 1, 0);
         x.image(true);
+        x.begin(0, 1, 1, 0, 1);
+        x.tick(40);
         x.image(false);
         DUE.is("a later IMAGE", x.reader(0, 18), learnt);
+        DUE.is("a later IMAGE", x.learnt(0, 1, 0), second);
+    }
+
+    private static void changeAll(TagReaders x, int round) {
+        x.stop(0);
+        x.stop(1);
+        x.select(0, 1, 5, 0, 0, 0);
+        x.tune(1, 2, 3);
+        x.begin(1, 1, 1, 0, 0);
+        x.begin(0, 1, 1, 2, 3);
+        x.tick(40);
+        x.set(0, 5 + round);
+        x.set(1, 6);
+        x.gone(2);
+        x.tag(9, memory(0x7777, 0), 3);
+        x.tag(2, memory(0x1111, 0), 0);
+        x.move(3, 2);
+        x.begin(0, 1, 0, 2, 0);
+        x.begin(1, 2, 0, 0, 1);
+        x.tick(7);
+        x.tune(0, 2, 1);
+        x.tune(0, 1, 1);
+        x.power(0, false);
+        x.power(2, true);
+        for (int i = 0; i < 60; i++) {
+            x.select(2, 0, 1, 0, 0, 0);
+        }
     }
 
     private static int[] told(TagReaders x) {
-        int[] all = new int[400];
+        int[] all = new int[1000];
         int i = 0;
         for (int what = 0; what <= 10; what++) {
             all[i++] = x.look(what);
         }
         for (int what = 0; what <= 20; what++) {
-            all[i++] = x.reader(0, what);
-            all[i++] = x.reader(2, what);
+            for (int reader = 0; reader < 3; reader++) {
+                all[i++] = x.reader(reader, what);
+            }
         }
         for (int what = 0; what <= 13; what++) {
             all[i++] = x.count(what);
-            for (int tag = 0; tag < 3; tag++) {
+            for (int tag = 0; tag < 10; tag++) {
                 all[i++] = x.tagOf(tag, what);
             }
         }
-        for (int line = 0; line < 8; line++) {
+        for (int line = 0; line < 60; line++) {
             for (int what = 0; what < 4; what++) {
                 all[i++] = x.log(line, what);
             }
         }
-        for (int k = 0; k < 6; k++) {
-            all[i++] = x.prefix(0, k, 0);
-            all[i++] = x.prefix(0, k, 1);
-            all[i++] = x.learnt(0, k, 0);
-            all[i++] = x.read(0, k);
+        for (int k = 0; k < 12; k++) {
+            for (int reader = 0; reader < 2; reader++) {
+                all[i++] = x.prefix(reader, k, 0);
+                all[i++] = x.prefix(reader, k, 1);
+                all[i++] = x.learnt(reader, k, 0);
+                all[i++] = x.learnt(reader, k, 1);
+                all[i++] = x.learnt(reader, k, 2);
+                all[i++] = x.read(reader, k);
+            }
         }
-        all[i] = x.lasts(0);
+        all[i++] = x.lasts(0);
+        all[i] = x.lasts(1);
         return all;
     }
 

@@ -169,7 +169,8 @@ public final class ExactTest {
         DUE.is("guess(10, 0, 6)", x.guess(10, 0, 6), 12);
         DUE.is("guess(9, 0, 7)", x.guess(9, 0, 7), NONE);
         DUE.is("guess(0, 0, 16)", x.guess(0, 0, 16), NONE);
-        int[][] wrong = {{0, 0, 0}, {1, 1, 1}, {-1, 1, 1}, {1, -1, 1}, {1, 1, -1}, {17, 0, 0}, {16, 16, 0}, {5, 0, 0},
+        int[][] wrong = {{0, 0, 0}, {1, 1, 1}, {-1, 1, 1}, {1, -1, 1}, {1, 1, -1}, {17, 0, 0}, {16, 16, 0}, {16, 8, 8}, {16, 4, 12},
+            {5, 0, 0},
             {Integer.MAX_VALUE, Integer.MAX_VALUE, 3}, {Integer.MIN_VALUE, Integer.MIN_VALUE, 1}, {-2, 2, 2}};
         for (int[] a : wrong) {
             DUE.is("guess(" + a[0] + ", " + a[1] + ", " + a[2] + ")", x.guess(a[0], a[1], a[2]), NONE);

@@ -746,6 +746,8 @@ public final class StockTest {
         x.gone(2);
         DUE.is("that are there", x.both(0, 1), 2);
         DUE.is("who went was READ", x.read(0, 0), 2);
+        x.gone(0);
+        DUE.is("0 went, too", x.both(0, 1), 1);
         x.begin(0, 0, 0, 0, TREE);
         DUE.is("the latest alone", x.both(0, 1), 0);
         DUE.is("read of the latest", x.read(0, 0), NONE);
@@ -853,6 +855,8 @@ public final class StockTest {
         // TREE of 3: 5 QUERIES; then 1 of READER 1, which none hears, and 2 SLOTS of READER 0.
         DUE.is("SLOTS and QUERIES", x.count(0), 8);
         DUE.is("EMPTY", x.count(1), x.reader(0, 13) + x.reader(1, 13));
+        DUE.is("SINGLE", x.count(2), x.reader(0, 12) + 3);
+        DUE.is("CLASHES", x.count(3), 2);
         DUE.is("all of these", x.count(1) + x.count(2) + x.count(3), 8);
         DUE.is("FRAMES begun", x.count(4), x.reader(0, 15));
         DUE.is("OVER", x.count(5), 2);
