@@ -1380,7 +1380,7 @@ public final class TagReaders {
             return true;
         }
 
-        static int treeQueries(Tag[] tags, int set, int depth) {
+        private static int treeQueries(Tag[] tags, int set, int depth) {
             if (Integer.bitCount(set) <= 1 || depth >= ID_BITS) {
                 return 1;
             }
@@ -1434,7 +1434,7 @@ public final class TagReaders {
 
         private static int sharpSpan(Tag[] tags) {
             for (int n = 0; n <= MEMORY_BITS; n++) {
-                for (int p = 0; isSpan(p, n); p++) {
+                for (int p = 0; p < MEMORY_BITS && p <= MEMORY_BITS - n; p++) {
                     if (areUnlike(tags, p, n)) {
                         return n << P_BITS | p;
                     }
@@ -1479,7 +1479,7 @@ public final class TagReaders {
 
         private static int leastSpan(Tag[] tags, int model) {
             for (int n = 0; n <= MEMORY_BITS; n++) {
-                for (int p = 0; isSpan(p, n); p++) {
+                for (int p = 0; p < MEMORY_BITS && p <= MEMORY_BITS - n; p++) {
                     if (selectsJust(tags, p, n, tags[model].span(p, n))) {
                         return n << P_BITS | p;
                     }

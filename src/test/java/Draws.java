@@ -26,4 +26,26 @@ final class Draws {
         }
         throw new IllegalStateException("no STATE has such DRAWS");
     }
+
+    /** The least STATE from 0 on, by which of the next n DRAWS of m so many are alone, so many SLOTS have more. */
+    static int stateByCounts(int m, int n, int singles, int clashes) {
+        for (int start = 0; start < 100000000; start++) {
+            int[] in = new int[m];
+            int state = start;
+            for (int i = 0; i < n; i++) {
+                in[of(state, m)]++;
+                state = next(state);
+            }
+            int alone = 0;
+            int more = 0;
+            for (int number : in) {
+                alone += number == 1 ? 1 : 0;
+                more += number > 1 ? 1 : 0;
+            }
+            if (alone == singles && more == clashes) {
+                return start;
+            }
+        }
+        throw new IllegalStateException("no STATE has such DRAWS");
+    }
 }

@@ -9,6 +9,7 @@ import java.nio.file.Path;
 import java.util.ArrayList;
 import java.util.Arrays;
 import java.util.List;
+import java.util.Random;
 import java.util.TreeSet;
 import java.util.regex.Matcher;
 import java.util.regex.Pattern;
@@ -23,9 +24,11 @@ public final class LanguageTest {
         signs(source);
         words(code);
         library(code);
-        methodsAreShort(code);
+        methods(code);
+        loopsHaveABound(code);
         face();
         classesInside();
+        noCallThrows();
         room();
         DUE.end();
     }
@@ -63,20 +66,34 @@ public final class LanguageTest {
         }
     }
 
-    private static void methodsAreShort(String code) {
+    private static void methods(String code) {
         DUE.part("methods");
         String[] lines = code.split("\n");
         for (int i = 0; i < lines.length; i++) {
-            Matcher m = Pattern.compile("^( +)\\b[\\w\\[\\] ]+\\((.*)\\) \\{$").matcher(lines[i]);
+            Matcher m = Pattern.compile("^( +)\\b([\\w\\[\\] ]*?)(\\w+)\\((.*)\\) \\{$").matcher(lines[i]);
             if (m.find() && !lines[i].matches(" +(if|for|switch|else|return|\\}).*")) {
                 int end = i;
+                boolean callsItself = false;
                 while (!lines[end].equals(m.group(1) + "}")) {
                     end++;
+                    callsItself |= Pattern.compile("(?<![\\w.])" + m.group(3) + "\\(").matcher(lines[end]).find();
                 }
                 DUE.is(lines[i].trim() + " is short", end - i <= 60, true);
-                DUE.is(lines[i].trim() + " has few parameters", m.group(2).split(",").length <= 7, true);
+                DUE.is(lines[i].trim() + " has few parameters", m.group(4).split(",").length <= 7, true);
+                DUE.is(lines[i].trim() + " may call itself", !callsItself || m.group(2).startsWith("private static "), true);
             }
         }
+    }
+
+    private static void loopsHaveABound(String code) {
+        DUE.part("loops");
+        Matcher m = Pattern.compile("for \\(int (\\w+) = [^;]+; ([^;]+); [^;]+\\) \\{").matcher(code);
+        int loops = 0;
+        while (m.find()) {
+            loops++;
+            DUE.is(m.group(), m.group(2).matches("(.* && )?" + m.group(1) + " (<|<=|>=) .*"), true);
+        }
+        DUE.is("all loops are such", code.split("\\bfor\\b", -1).length - 1, loops);
     }
 
     private static void face() {
@@ -136,6 +153,47 @@ public final class LanguageTest {
                 DUE.is(m + " bears no public name", isHidden && publicNames.contains(m.getName()), false);
             }
         }
+    }
+
+    /** Any arguments in any state: mostly such as can be, with wild ones among them. */
+    private static void noCallThrows() {
+        DUE.part("rule 7");
+        List<Method> methods = new ArrayList<>();
+        for (Method m : TagReaders.class.getDeclaredMethods()) {
+            if (Modifier.isPublic(m.getModifiers())) {
+                methods.add(m);
+            }
+        }
+        methods.sort((a, b) -> a.getName().compareTo(b.getName()));
+        for (int seed = 1; seed <= 60; seed++) {
+            Random chance = new Random(seed);
+            TagReaders x = new TagReaders();
+            for (int i = 0; i < 3000; i++) {
+                Method m = methods.get(chance.nextInt(methods.size()));
+                Object[] wild = wild(chance, m, seed % 3 == 0);
+                try {
+                    m.invoke(x, wild);
+                    DUE.is(m.getName(), true, true);
+                } catch (ReflectiveOperationException e) {
+                    DUE.is(m.getName() + Arrays.toString(wild) + " throws " + e.getCause(), true, false);
+                }
+            }
+        }
+    }
+
+    private static Object[] wild(Random chance, Method m, boolean often) {
+        int[] edges = {Integer.MIN_VALUE, Integer.MIN_VALUE + 1, -33, -32, -2, -1, 16, 17, 23, 24, 31, 32, 33, 40, 60, 64, 256, 512,
+            65535, 65536, Integer.MAX_VALUE - 1, Integer.MAX_VALUE};
+        Class<?>[] kinds = m.getParameterTypes();
+        Object[] all = new Object[kinds.length];
+        for (int k = 0; k < kinds.length; k++) {
+            boolean isWild = chance.nextInt(often ? 3 : 12) == 0;
+            int small = chance.nextInt(chance.nextBoolean() ? 4 : 25);
+            boolean isMemory = m.getName().equals("tag") && k == 1;
+            int number = isMemory ? chance.nextInt() : isWild ? edges[chance.nextInt(edges.length)] : small;
+            all[k] = kinds[k] == boolean.class ? (Object) chance.nextBoolean() : (Object) number;
+        }
+        return all;
     }
 
     /** Behind the first IMAGE and the first thought no call makes an object any more. */
