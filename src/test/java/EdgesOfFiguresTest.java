@@ -229,8 +229,8 @@ public final class EdgesOfFiguresTest {
     private static void hopeBounds() {
         DUE.part("promise 27: HOPE what 0 above, 1 below; NONE if one can't be, or another what");
         TagReaders x = new TagReaders();
-        int[][] wrong = {{-1, 0, 0}, {13, 0, 0}, {0, -1, 0}, {0, 5, 0}, {1, 1, -1}, {1, 1, 2}, {LEAST, 0, 0}, {MOST, 0, 1},
-            {0, LEAST, 0}, {0, MOST, 1}, {1, 1, LEAST}, {1, 1, MOST}, {13, 5, 2}};
+        int[][] wrong = {{-1, 0, 0}, {-1, 0, 1}, {-1, 4, 1}, {13, 0, 0}, {13, 4, 1}, {0, -1, 0}, {0, -1, 1}, {0, 5, 0}, {0, 5, 1},
+            {1, 1, -1}, {1, 1, 2}, {LEAST, 0, 0}, {MOST, 0, 1}, {0, LEAST, 0}, {0, MOST, 1}, {1, 1, LEAST}, {1, 1, MOST}, {13, 5, 2}};
         for (int[] a : wrong) {
             EDGE.refused(x, "hope(" + a[0] + ", " + a[1] + ", " + a[2] + ")", () -> x.hope(a[0], a[1], a[2]), NONE);
         }
