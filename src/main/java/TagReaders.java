@@ -1509,9 +1509,15 @@ public final class TagReaders {
         private final long[] withoutSingles = new long[(MOST_SLOTS + 1) * (MOST + 1)];
         private final long[] clashesAlone = new long[(MOST_SLOTS + 1) * (MOST + 1)];
 
+        // BEST of each n: asked inside of a TICK, where calls are deep already.
+        private final int[] bests = new int[MOST + 1];
+
         Chances() {
             fill(withoutSingles, 0);
             fill(clashesAlone, 2);
+            for (int n = 1; n <= MOST; n++) {
+                bests[n] = mostHopeful(n);
+            }
         }
 
         private static int cell(int slots, int tags) {
@@ -1587,9 +1593,10 @@ public final class TagReaders {
         }
 
         int bestFor(int n) {
-            if (n < 1 || n > MOST) {
-                return NONE;
-            }
+            return n < 1 || n > MOST ? NONE : bests[n];
+        }
+
+        private static int mostHopeful(int n) {
             int best = 0;
             for (int q = 1; q <= MOST_Q; q++) {
                 if (hopeInSixteenths(n, q) > hopeInSixteenths(n, best)) {
